@@ -11,8 +11,8 @@ public final class ImageTest {
     private static void allButSheetsAndTape() {
         ClashRocks x = Due.strait("p4/6/3+2,s6/5/3;P31,L25");
         due.is("restore()", x.restore(), ClashRocks.NONE);
-        x.setOut(0);
         x.idle(9);
+        x.setOut(0);
         x.look(5, 1);
         x.look(6, 0);
         x.seed(123);
@@ -31,8 +31,11 @@ public final class ImageTest {
         due.is("undo()", x.undo(), 0);
         due.is("restore()", x.restore(), 1);
         due.is("count(6)", x.count(6), 1);
+        due.is("count(2)", x.count(2), 9);
+        due.is("count(3)", x.count(3), ClashRocks.NONE);
+        due.is("undo()", x.undo(), 0);
         due.is("count(2)", x.count(2), 0);
-        due.is("count(3)", x.count(3), 0);
+        due.is("undo()", x.undo(), ClashRocks.NONE);
     }
 
     private static void change(ClashRocks x) {
@@ -45,7 +48,8 @@ public final class ImageTest {
         Due.read(x, "t9/9/9;B11,B12,B13");
         x.setOut(2);
         x.forget();
-        x.look(1, 1);
+        x.look(1, 0);
+        x.look(2, 1);
         x.seed(55);
         x.drop(0);
         x.sheet(1, 3, 5);

@@ -32,6 +32,10 @@ public final class LooksTest {
         ClashRocks x = new ClashRocks();
         due.is("fits(2)", x.fits(2), ClashRocks.BAD);
         due.is("fits(-1)", x.fits(-1), ClashRocks.BAD);
+        x.look(0, 0);
+        due.is("fits(0)", x.fits(0), 2300);
+        due.is("fits(1)", x.fits(1), 20101);
+        x.forget();
         // Open in 0 .. 22, shut in 23 and 24: 24 is a beat too long for that, since 24 is 0 of it.
         x.look(0, 1);
         x.look(23, 0);
@@ -79,6 +83,7 @@ public final class LooksTest {
         due.is("foretell(-1)", x.foretell(-1), ClashRocks.BAD);
         due.is("foretell(10000)", x.foretell(10000), ClashRocks.BAD);
         due.is("foretell(9999)", x.foretell(9999), 2);
+        due.is("foretell(0)", x.foretell(0), 2);
         x.look(9999, 1);
         x.look(9998, 0);
         due.is("foretell(9999)", x.foretell(9999), 1);
@@ -97,6 +102,10 @@ public final class LooksTest {
         due.is("next(0, -1)", x.next(0, -1), ClashRocks.BAD);
         due.is("next(9999, 0)", x.next(9999, 0), 9999);
         due.is("next(9999, 1)", x.next(9999, 1), 2300);
+        x.look(99, 1);
+        due.is("next(99, 0), not what is known", x.next(99, 0) > 99 ? 1 : 0, 1);
+        due.is("next(129, 0), a second on", x.next(129, 0), 130);
+        x.forget();
         x.look(100, 1);
         x.look(101, 0);
         x.look(102, 0);

@@ -68,6 +68,8 @@ public final class PairsAndShipsTest {
         due.is("of(0, 4)", x.of(0, 4), 4);
         due.is("phase(0, 1)", x.phase(0, 1), 4);
         due.is("of(0, 4)", x.of(0, 4), 1);
+        due.is("phase(0, 0)", x.phase(0, 0), 1);
+        due.is("of(0, 4)", x.of(0, 4), 0);
     }
 
     private static void ship() {

@@ -83,6 +83,24 @@ public final class PassageTest {
         // Beginning in T to T and 99 alone: a slow one of 24 is open once in 48.
         ClashRocks s = Due.strait("s30/24/1,s30/24/1,s30/24/1,s30/24/1,s30/24/1,s30/24/1;B15");
         due.is("soonest, never at all these", s.soonest(0, 0, -2), ClashRocks.NONE);
+        longestOfAll();
+    }
+
+    /** Six reaches of 30 by 1 and a span of 11 each, as late as it may begin. */
+    private static void longestOfAll() {
+        ClashRocks x = Due.strait("p30/2/2,p30/2/2,p30/2/2,p30/2/2,p30/2/2,p30/24/11;L91");
+        // The last pair is open for 11 seconds from 0, 24, 48 .. on: from 235 and 41 k on it comes there.
+        due.is("soonest(0, 0, -2)", x.soonest(0, 0, -2), 240 + 11);
+        due.is("soonest(0, 0, -1)", x.soonest(0, 0, -1), 240 - 5 * 41 - 30);
+        due.is("soonest(0, 0, 5)", x.soonest(0, 0, 5), 1);
+        ClashRocks late = Due.strait("p30/23/11,p30/24/11,p30/2/2,p30/2/2,p30/2/2,p30/2/2;L91");
+        // It comes at 23 a, then 41 later at 24 b: 23 a + 41 = 24 b by a = 17, then not for 552 seconds.
+        int begin = 17 * 23 - 30;
+        due.is("soonest, 99 ahead", late.soonest(0, begin - 99, -1), begin);
+        due.is("soonest, 99 ahead", late.soonest(0, begin - 99, -2), begin + 6 * 41);
+        due.is("soonest, 100 ahead", late.soonest(0, begin - 100, -1), ClashRocks.NONE);
+        due.is("soonest, at once", late.soonest(0, begin, -1), begin);
+        due.is("soonest, too late", late.soonest(0, begin + 1, -1), ClashRocks.NONE);
     }
 
     private static void fog() {
@@ -96,6 +114,9 @@ public final class PassageTest {
         due.is("fog(0, 1, 1)", x.fog(0, 1, 1), 4);
         due.is("fog(0, 0, 0)", x.fog(0, 0, 0), 0);
         due.is("fog(0, 0, 1)", x.fog(0, 0, 1), 1);
+        ClashRocks always = Due.strait("p4/6/6,p4/6/6;P31");
+        due.is("fog(0, 0, 0)", always.fog(0, 0, 0), 1);
+        due.is("fog(0, 0, 1)", always.fog(0, 0, 1), 1);
         // A beat of 2: 1 less and 1 more are the same.
         ClashRocks y = Due.strait("p1/2/1;P11");
         due.is("fog(0, 1, 0)", y.fog(0, 1, 0), 1);
@@ -118,6 +139,13 @@ public final class PassageTest {
         due.is("sure(0, 4)", x.sure(0, 4), 9);
         due.is("sure(0, 9999)", x.sure(0, 9999), 9999);
         due.is("sure(0, 9994)", x.sure(0, 9994), 9999);
+        // Clean from 45 and 552 more on alone; a second off by each pair is likelier than none at all.
+        ClashRocks rare = Due.strait("p1/23/1,p1/24/1;P11");
+        due.is("sure(0, 538)", rare.sure(0, 538), 597);
+        due.is("sure(0, 537)", rare.sure(0, 537), 573);
+        due.is("fog(0, 597, 1)", rare.fog(0, 597, 1), 4);
+        due.is("fog(0, 573, 1)", rare.fog(0, 573, 1), 8);
+        due.is("fog(0, 596, 1)", rare.fog(0, 596, 1), 16);
         ClashRocks never = Due.strait("p4/6/2;P31");
         due.is("sure, never", never.sure(0, 44), 44);
     }
@@ -154,6 +182,10 @@ public final class PassageTest {
         due.is("convoy(0, 5, 31)", x.convoy(0, 5, 31), 0);
         due.is("convoy(1, 9999, 31)", x.convoy(1, 9999, 31), 31);
         due.is("convoy(0, 0, 0)", x.convoy(0, 0, 0), 0);
+        due.is("convoy(0, 0, 1)", x.convoy(0, 0, 1), 1);
+        ClashRocks slow = Due.strait("s1/24/24,s1/24/23;L91,L91,L91,L91,L91");
+        due.is("convoy(0, 0, 31), 55 seconds", slow.convoy(0, 0, 31), 31);
+        due.is("convoy(1, 0, 31), 46 seconds", slow.convoy(1, 0, 31), 15);
         due.is("convoy(0, 0, 32)", x.convoy(0, 0, 32), ClashRocks.BAD);
         due.is("convoy(0, 0, -1)", x.convoy(0, 0, -1), ClashRocks.BAD);
         due.is("convoy(2, 0, 1)", x.convoy(2, 0, 1), ClashRocks.BAD);

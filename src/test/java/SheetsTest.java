@@ -176,6 +176,10 @@ public final class SheetsTest {
         due.is("copy(-1, ..)", x.copy(-1, 0, 0, 0, 0), ClashRocks.BAD);
         due.is("copy(.., 4, ..)", x.copy(0, 0, 4, 0, 0), ClashRocks.BAD);
         due.is("copy, both null", x.copy(0, 0, 1, 0, 0), ClashRocks.NULL);
+        due.is("copy(4, ..)", x.copy(4, 0, 0, 0, 0), ClashRocks.BAD);
+        due.is("copy(.., -1, ..)", x.copy(0, 0, -1, 0, 0), ClashRocks.BAD);
+        x.sheet(3, 1, 1);
+        due.is("copy(3, 0, 3, 0, 1)", x.copy(3, 0, 3, 0, 1), 1);
         x.sheet(0, 1, 3);
         due.is("copy, to null", x.copy(0, 0, 1, 0, 0), ClashRocks.NULL);
         due.is("copy, from null", x.copy(1, 0, 0, 0, 0), ClashRocks.NULL);

@@ -122,5 +122,9 @@ public final class TextTest {
         due.is("seed(1)", x.seed(1), 77);
         due.is("of(0, 4)", x.of(0, 4), 0);
         due.is("pair behind a strait", x.pair(0, 1, 2, 1), 1);
+        Due.read(x, "t9/9/9+1,t9/9/9+2");
+        Due.read(x, "t9/9/9+1");
+        x.pair(0, 1, 2, 1);
+        due.is("of(1, 4), a new pair", x.of(1, 4), 0);
     }
 }

@@ -118,6 +118,9 @@ public final class VoyageTest {
         due.is("pass(1), the crush would be at 10000", x.pass(1), ClashRocks.FULL);
         due.is("idle(1)", x.idle(1), ClashRocks.FULL);
         counts(x, 9999, 0, 1, 0, 8);
+        x.undo();
+        due.is("idle(4), to the very end", x.idle(4), 9999);
+        due.is("idle(1)", x.idle(1), ClashRocks.FULL);
         crushAheadOfTheEnd();
     }
 
