@@ -1063,13 +1063,19 @@ public final class ClashRocks {
             }
         }
 
+        /** The second behind the pair that was measured, or NEVER where the ship is not through. */
+        private int behindBy(Pair pair, Ship ship, int t, int pace) {
+            int comes = t + secondsFor(pair.reach, pace);
+            int takes = secondsFor(ship.span(), pace);
+            return comes + takes < SPREAD && openFor[comes] >= takes ? comes + takes : NEVER;
+        }
+
         private int soonestEnd(Pair pair, Ship ship, int k, int t) {
             int best = NEVER;
             for (int pace = ship.low(); pace <= ship.high(); pace++) {
-                int comes = t + secondsFor(pair.reach, pace);
-                int takes = secondsFor(ship.span(), pace);
-                if (comes + takes < SPREAD && openFor[comes] >= takes) {
-                    best = Math.min(best, ends[k + 1][comes + takes]);
+                int behind = behindBy(pair, ship, t, pace);
+                if (behind != NEVER) {
+                    best = Math.min(best, ends[k + 1][behind]);
                 }
             }
             return best;
@@ -1086,9 +1092,8 @@ public final class ClashRocks {
 
         private int firstPace(Pair pair, Ship ship, int k, int t) {
             for (int pace = ship.low(); pace < ship.high(); pace++) {
-                int comes = t + secondsFor(pair.reach, pace);
-                int takes = secondsFor(ship.span(), pace);
-                if (comes + takes < SPREAD && openFor[comes] >= takes && ends[k + 1][comes + takes] == end) {
+                int behind = behindBy(pair, ship, t, pace);
+                if (behind != NEVER && ends[k + 1][behind] == end) {
                     return pace;
                 }
             }
