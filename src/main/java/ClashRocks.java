@@ -174,9 +174,7 @@ public final class ClashRocks {
             return NOT;
         }
         waters.remember();
-        now.out = ship;
-        now.passed = 0;
-        now.scrapes = 0;
+        now.begin(ship);
         return waters.pairCount;
     }
 
@@ -678,6 +676,12 @@ public final class ClashRocks {
             passed = other.passed;
             scrapes = other.scrapes;
         }
+
+        void begin(int ship) {
+            out = ship;
+            passed = 0;
+            scrapes = 0;
+        }
     }
 
     /** What was seen of the pair that nobody knows. */
@@ -743,7 +747,8 @@ public final class ClashRocks {
         /** The strait that a tape has just been read as comes in place of this one. */
         void settle(Tape tape) {
             takePairsAndShips(tape.pairs, tape.pairCount, tape.ships, tape.shipCount);
-            now.out = NOBODY;
+            // Of these ships none has set out yet, so there is none that could have passed a pair.
+            now.begin(NOBODY);
             pastCount = 0;
         }
 

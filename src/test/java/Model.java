@@ -315,7 +315,7 @@ final class Model {
         }
         w.pairs = pairs;
         w.ships = ships;
-        w.voyage[1] = NONE;
+        w.voyage = new int[] {w.voyage[0], NONE, 0, 0};
         w.past.clear();
         return pairs.size();
     }

@@ -7,6 +7,7 @@ public final class TextTest {
         readable();
         faults();
         whatStays();
+        noneHasSetOutBehindAStrait();
         due.end();
     }
 
@@ -126,5 +127,48 @@ public final class TextTest {
         Due.read(x, "t9/9/9+1");
         x.pair(0, 1, 2, 1);
         due.is("of(1, 4), a new pair", x.of(1, 4), 0);
+    }
+
+    private static void passedAndScraped(ClashRocks x, int passed, int scrapes) {
+        due.is("count(4)", x.count(4), passed);
+        due.is("count(5)", x.count(5), scrapes);
+    }
+
+    /** The pairs and ships that a strait tells are new: none was passed, none has set out. */
+    private static void noneHasSetOutBehindAStrait() {
+        ClashRocks x = Due.strait("p1/2/1,p1/2/2,p1/2/2;P11");
+        x.setOut(0);
+        due.is("pass(1): not 1, its only one", x.pass(1), 1);
+        due.is("pass(1)", x.pass(1), 0);
+        passedAndScraped(x, 2, 1);
+        due.is("a fault", Due.read(x, "p1/2/3"), -25);
+        passedAndScraped(x, 2, 1);
+        x.image();
+        due.is("a strait", Due.read(x, "p1/2/2,p1/2/2,p1/2/2;P11"), 3);
+        passedAndScraped(x, 0, 0);
+        due.is("idle(1)", x.idle(1), 5);
+        passedAndScraped(x, 0, 0);
+        due.is("undo()", x.undo(), 0);
+        passedAndScraped(x, 0, 0);
+        due.is("setOut(0)", x.setOut(0), 3);
+        due.is("pass(1)", x.pass(1), 0);
+        passedAndScraped(x, 1, 0);
+        due.is("undo()", x.undo(), 1);
+        due.is("undo()", x.undo(), 0);
+        passedAndScraped(x, 0, 0);
+        due.is("restore()", x.restore(), 1);
+        passedAndScraped(x, 2, 1);
+        crushedAheadOfAStrait();
+    }
+
+    private static void crushedAheadOfAStrait() {
+        ClashRocks x = Due.strait("p1/2/1,p1/24/1;P21");
+        x.idle(1);
+        x.setOut(0);
+        due.is("pass(1): 2, not 3", x.pass(1), 1);
+        due.is("pass(1): not 5 6", x.pass(1), 2);
+        passedAndScraped(x, 1, 1);
+        due.is("a strait", Due.read(x, "p1/2/1"), 1);
+        passedAndScraped(x, 0, 0);
     }
 }
