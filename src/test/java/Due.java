@@ -2,13 +2,19 @@
 final class Due {
     private int wrong;
     private int asked;
+    /** The sentence of the document that asks for the answers from here on; empty: none is named. */
+    private String sentence = "";
+
+    void by(String newSentence) {
+        sentence = newSentence;
+    }
 
     void is(String call, long got, long want) {
         asked++;
         if (got != want) {
             wrong++;
             if (wrong <= 40) {
-                System.out.println(call + " answered " + got + ", due is " + want);
+                System.out.println(call + " answered " + got + ", due is " + want + sentence);
             }
         }
     }
@@ -32,9 +38,13 @@ final class Due {
     }
 
     static int read(ClashRocks x, String text) {
+        write(x, text);
+        return x.strait();
+    }
+
+    static void write(ClashRocks x, String text) {
         for (int i = 0; i < text.length(); i++) {
             x.type(text.charAt(i));
         }
-        return x.strait();
     }
 }
