@@ -195,7 +195,11 @@ public final class EdgesOfLooksTest extends Edges {
         row("next(142, ..), 60 later", what -> x.next(142, what), 173, 1380);
         ClashRocks y = seen(0, 1, 1, 1, 2, 0);
         row("next(134, ..), at once", what -> y.next(134, what), 134, 127);
+        row("next(30, ..), a second on", what -> x.next(30, what), 31, 1326);
         row("next(135, ..), too late for that", what -> y.next(135, what), 157, 128);
+        ClashRocks late = seen(9999, 1, 9998, 0);
+        row("next(9980, ..), 59 later, beyond the last look's second", what -> late.next(9980, what), 10039, 138);
+        row("next(9979, ..), 60 later", what -> late.next(9979, what), 10031, 139);
     }
 
     private static void nextFirst() {
@@ -323,9 +327,13 @@ public final class EdgesOfLooksTest extends Edges {
         Due.read(x, "t9/9/9+8");
         x.idle(1);
         x.forget();
-        x.look(3, 1);
+        for (int i = 0; i < 12; i++) {
+            x.look(25 * i, i % 2);
+        }
+        fits(x, 38, 20101);
         due.is("restore()", x.restore(), 1);
         row("count", x::count, 6, 5, 126, NONE, 0, 0, 8, 12);
+        fits(x, 17, 131208);
         for (int pair = 0; pair < 6; pair++) {
             int k = pair;
             row("of(" + pair + ", ..)", what -> x.of(k, what), k % 4, k + 1, k + 2, 2, k);

@@ -12,6 +12,7 @@ public final class EdgesOfPassagesTest extends Edges {
         soonestIsSoonest();
         soonestBeginsLast();
         soonestFirstRow();
+        soonestOfTheLongest();
         soonestWhat();
         soonestNone();
         fullWhat();
@@ -90,9 +91,13 @@ public final class EdgesOfPassagesTest extends Edges {
         due.is("soonest(0, 498, -1), 99 later", x.soonest(0, 498, -1), 597);
         due.is("soonest(0, 498, -2)", x.soonest(0, 498, -2), 601);
         due.is("soonest(0, 597, -1)", x.soonest(0, 597, -1), 597);
-        // 45 and 19 times 552 is 10533, 18 times is 9981.
+        // 45 and 18 times 552 is 9981.
         due.is("soonest(0, 9981, -2)", x.soonest(0, 9981, -2), 9985);
         due.is("soonest(0, 9982, -2)", x.soonest(0, 9982, -2), NONE);
+        // The clock ends at 9999, what is told of a passage does not: 10008 is 417 times 24.
+        ClashRocks late = Due.strait("p1/24/1;P11");
+        due.is("soonest(0, 9999, -1)", late.soonest(0, 9999, -1), 10007);
+        due.is("soonest(0, 9999, -2)", late.soonest(0, 9999, -2), 10009);
     }
 
     private static void soonestIsSoonest() {
@@ -123,6 +128,9 @@ public final class EdgesOfPassagesTest extends Edges {
         ClashRocks x = Due.strait("p5/24/1;P14");
         due.is("soonest(0, 0, -1)", x.soonest(0, 0, -1), 22);
         due.is("soonest(0, 0, 0)", x.soonest(0, 0, 0), 3);
+        // By 3 or 4 it takes 2 seconds for each reach and 2 between, from 642 on, and not for 552 seconds ahead of it.
+        ClashRocks z = Due.strait("p5/23/2,p5/24/2;P54");
+        row("soonest(0, 545, -2 ..)", what -> z.soonest(0, 545, what - 2), 650, 642, 3, 3, BAD);
         // In 24, then 25 on; at 29 by 1 and 2 or by 2 and 1.
         ClashRocks y = Due.strait("p1/24/1,p2/2/2,p2/24/1+19;P12");
         row("soonest(0, 0, -2 ..)", what -> y.soonest(0, 0, what - 2), 30, 23, 1, 1, 2, BAD);
@@ -131,6 +139,24 @@ public final class EdgesOfPassagesTest extends Edges {
         row("soonest(0, 0, -2 ..)", what -> y.soonest(0, 0, what - 2), 29, 23, 1, 2, 2, BAD);
         y.phase(2, 18);
         row("soonest(0, 0, -2 ..)", what -> y.soonest(0, 0, what - 2), 31, 23, 1, 1, 1, BAD);
+    }
+
+    /** Six pairs, all with the longest reach, and the longest ship; it begins as late as it may. */
+    private static void soonestOfTheLongest() {
+        terms("of all CLEAN PASSAGES that begin in T to T and 99, by any PACES");
+        // By 1, 41 seconds each: it comes to the fifth at 391, 17 times 23, and to the sixth at 432, 18 times 24.
+        ClashRocks x = Due.strait("p30/2/2,p30/2/2,p30/2/2,p30/2/2,p30/23/11,p30/24/11;L91");
+        row("soonest(0, 98, -2 ..)", what -> x.soonest(0, 98, what - 2), 443, 197, 1, 1, 1, 1, 1, 1, BAD);
+        due.is("soonest(0, 97, -2)", x.soonest(0, 97, -2), NONE);
+        due.is("soonest(0, 198, -2)", x.soonest(0, 198, -2), NONE);
+        // By 2, 21 seconds each: it comes to the first at 483, 21 times 23, to the second at 504, 21 times 24. To the
+        // sixth it comes at 588, or 20 later for each pair ahead of it that it goes to by 1: 648 is 27 times 24.
+        ClashRocks y = Due.strait("p30/23/6,p30/24/6,p30/2/2,p30/2/2,p30/2/2,p30/24/6;L92");
+        row("soonest(0, 369, -2 ..)", what -> y.soonest(0, 369, what - 2), 654, 468, 2, 2, 1, 1, 1, 2, BAD);
+        due.is("soonest(0, 368, -2)", y.soonest(0, 368, -2), NONE);
+        // 628 and 20 are 27 times 24: two of three by 1, the first of such rows.
+        y.phase(5, 20);
+        row("soonest(0, 369, -2 ..)", what -> y.soonest(0, 369, what - 2), 634, 468, 2, 2, 1, 1, 2, 2, BAD);
     }
 
     private static void soonestWhat() {
@@ -271,8 +297,9 @@ public final class EdgesOfPassagesTest extends Edges {
         due.is("sure(0, 597), at once", x.sure(0, 597), 597);
         fog(x, 597, 1, 4);
         fog(x, 573, 1, 8);
-        // 9981 is one of those, too; from 9999 on the next that is likely at all is sought beyond the clock's end.
         due.is("sure(0, 9922)", x.sure(0, 9922), 9981);
+        // 10008 is 417 times 24.
+        due.is("sure(0, 9999), beyond the clock's end", Due.strait("p1/24/1;P11").sure(0, 9999), 10007);
     }
 
     private static void sureFirst() {
@@ -305,6 +332,9 @@ public final class EdgesOfPassagesTest extends Edges {
         ClashRocks x = Due.strait("p1/24/1,p1/2/1,t1/24/1,p1/24/24;P11");
         // From 22 on it comes at 23, 25, 27 and 29: phase 1 is 23 less; phase 1 is 1 less; 12 less than 15 is 9, 3 less.
         row("stones(0, 22, -1 ..)", pair -> x.stones(0, 22, pair - 1), 27, 23, 1, 3, 0, BAD);
+        // It comes at 1, 3, 5 and so on.
+        ClashRocks six = Due.strait("p1/24/1,p1/24/1,p1/24/1,p1/24/1,p1/24/1,p1/24/1;P11");
+        row("stones(0, 0, -1 ..)", pair -> six.stones(0, 0, pair - 1), 36, 1, 3, 5, 7, 9, 11, BAD);
         ClashRocks two = Due.strait("p1/2/1;P11");
         due.is("stones(0, 0, 0)", two.stones(0, 0, 0), 1);
         due.is("stones(0, 1, 0)", two.stones(0, 1, 0), 0);
@@ -370,6 +400,10 @@ public final class EdgesOfPassagesTest extends Edges {
         // Open for 46 seconds: 1 9 11 11 11 are 43; from 4 on there are 42.
         due.is("convoy(2, 3, 31)", x.convoy(2, 3, 31), 31);
         due.is("convoy(2, 4, 31)", x.convoy(2, 4, 31), 15);
+        // Five times 11 seconds are the longest that there is.
+        ClashRocks longest = Due.strait("s1/24/24,s1/24/23;L91,L91,L91,L91,L91");
+        due.is("convoy(0, 9999, 31), 55 seconds", longest.convoy(0, 9999, 31), 31);
+        due.is("convoy(1, 0, 31), 46 seconds", longest.convoy(1, 0, 31), 15);
         // Scraped is not passed: of 9 seconds the last is shut.
         due.is("convoy(2, 37, 2)", x.convoy(2, 37, 2), 2);
         due.is("convoy(2, 38, 2)", x.convoy(2, 38, 2), 0);
@@ -400,6 +434,9 @@ public final class EdgesOfPassagesTest extends Edges {
         due.is("rudder(0, 23, 0)", x.rudder(0, 23, 0), 0);
         due.is("rudder(0, 23, 22)", x.rudder(0, 23, 22), 0);
         due.is("rudder(0, 23, 23)", x.rudder(0, 23, 23), 1);
+        // 10007 is 23 left over by 24.
+        due.is("rudder(0, 9999, 6)", x.rudder(0, 9999, 6), 0);
+        due.is("rudder(0, 9999, 7), beyond the clock's end", x.rudder(0, 9999, 7), 1);
     }
 
     private static void rudderCrushedNowhere() {
@@ -451,6 +488,8 @@ public final class EdgesOfPassagesTest extends Edges {
         due.is("of(1, 3), as it was", x.of(1, 3), 1);
         ClashRocks all = Due.strait("p1/2/1;P21");
         due.is("worth(0, 0), all", all.worth(0, 0), 60);
+        ClashRocks six = Due.strait("p1/2/2,p1/2/2,p1/2/2,p1/2/2,p1/2/2,p1/2/1;P21");
+        row("worth of six", pair -> six.worth(0, pair), 0, 0, 0, 0, 0, 60, BAD);
     }
 
     private static void worthOfNothing() {

@@ -245,6 +245,23 @@ public final class EdgesOfTextTest extends Edges {
         row("count", x::count, 2, 1, 9999, NONE, 0, 0, 0, 0);
         due.is("pass(1)", x.pass(1), NOT);
         due.is("setOut(0)", x.setOut(0), 2);
+        nothingElseGoes();
+    }
+
+    private static void nothingElseGoes() {
+        ClashRocks x = Due.strait("p1/2/2;P11");
+        x.idle(4);
+        x.image();
+        x.look(5, 1);
+        x.seed(6);
+        x.sheet(3, 3, 7);
+        due.is("strait", Due.read(x, "p1/2/2,p1/2/2"), 2);
+        due.is("count(7), the looks", x.count(7), 1);
+        due.is("foretell(5)", x.foretell(5), 1);
+        due.is("seed(1), the draw", x.seed(1), 6);
+        due.is("drop(3), a sheet", x.drop(3), 7);
+        due.is("restore(), the image", x.restore(), 1);
+        row("count", x::count, 1, 1, 4, NONE, 0, 0, 1, 0);
     }
 
     private static void nothingToBeUndone() {

@@ -1,7 +1,5 @@
-import java.lang.reflect.InvocationTargetException;
 import java.lang.reflect.Method;
 import java.util.ArrayList;
-import java.util.Comparator;
 import java.util.List;
 import java.util.Random;
 
@@ -12,13 +10,7 @@ public final class RandomRunsTest {
     private static final Random random = new Random(20261117);
 
     public static void main(String[] args) throws ReflectiveOperationException {
-        List<Method> calls = new ArrayList<>();
-        for (Method method : ClashRocks.class.getDeclaredMethods()) {
-            if (java.lang.reflect.Modifier.isPublic(method.getModifiers())) {
-                calls.add(method);
-            }
-        }
-        calls.sort(Comparator.comparing(Method::getName));
+        List<Method> calls = Calls.all();
         for (int run = 0; run < RUNS && due.isAllWell(); run++) {
             run(run, calls);
         }
@@ -37,11 +29,11 @@ public final class RandomRunsTest {
             if (n % 128 == 3 || lot == calls.size()) {
                 type(x, model, told, text(mostPairs));
             } else if (lot > calls.size() + 8) {
-                ask(x, model, told, find(calls, "pass"), random.nextInt(4));
+                ask(x, model, told, Calls.named(ClashRocks.class, "pass"), random.nextInt(4));
             } else if (lot > calls.size() + 4) {
-                ask(x, model, told, find(calls, "setOut"), random.nextInt(3));
+                ask(x, model, told, Calls.named(ClashRocks.class, "setOut"), random.nextInt(3));
             } else if (lot > calls.size()) {
-                ask(x, model, told, find(calls, "undo"));
+                ask(x, model, told, Calls.named(ClashRocks.class, "undo"));
             } else {
                 Method call = calls.get(lot);
                 boolean isDear = call.getName().equals("sure") || call.getName().equals("stones");
@@ -60,27 +52,11 @@ public final class RandomRunsTest {
         }
     }
 
-    private static Method find(List<Method> calls, String name) {
-        for (Method call : calls) {
-            if (call.getName().equals(name)) {
-                return call;
-            }
-        }
-        throw new IllegalArgumentException(name);
-    }
-
     private static void ask(ClashRocks x, Model model, List<String> told, Method call, Object... arguments)
             throws ReflectiveOperationException {
         String name = call.getName() + java.util.Arrays.toString(arguments);
         told.add(name);
-        Method twin = Model.class.getDeclaredMethod(call.getName(), call.getParameterTypes());
-        int want = (Integer) twin.invoke(model, arguments);
-        try {
-            due.is(name, (Integer) call.invoke(x, arguments), want);
-        } catch (InvocationTargetException thrown) {
-            System.out.println(name + " threw " + thrown.getCause());
-            due.is(name, Integer.MIN_VALUE, want);
-        }
+        Calls.ask(due, name, Calls.wanted(model, call, arguments), x, call, arguments);
     }
 
     private static void type(ClashRocks x, Model model, List<String> told, String text) {

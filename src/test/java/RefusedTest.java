@@ -1,9 +1,6 @@
-import java.lang.reflect.InvocationTargetException;
 import java.lang.reflect.Method;
-import java.lang.reflect.Modifier;
 import java.util.ArrayList;
 import java.util.Arrays;
-import java.util.Comparator;
 import java.util.List;
 
 /**
@@ -38,13 +35,7 @@ public final class RefusedTest extends Edges {
 
     public static void main(String[] args) throws ReflectiveOperationException {
         terms("What is refused changes nothing, but as told.");
-        List<Method> calls = new ArrayList<>();
-        for (Method method : ClashRocks.class.getDeclaredMethods()) {
-            if (Modifier.isPublic(method.getModifiers())) {
-                calls.add(method);
-            }
-        }
-        calls.sort(Comparator.comparing(Method::getName));
+        List<Method> calls = Calls.all();
         for (int state = 0; state < STATES.length; state++) {
             int[] untouched = told(made(state));
             for (Method call : calls) {
@@ -62,17 +53,20 @@ public final class RefusedTest extends Edges {
         int refused = 0;
         for (int lot = 0; lot < all; lot++) {
             Object[] arguments = arguments(call, lot);
-            int answer = asked(call, x, model, state, arguments);
-            refused++;
-            if (answer >= 0) {
+            String name = "state " + state + ", " + call.getName() + Arrays.toString(arguments);
+            int want = Calls.wanted(model, call, arguments);
+            if (want >= 0) {
+                Calls.ask(due, name, want, made(state), call, arguments);
                 model = new Model();
                 run(model, STATES[state]);
-                x = made(state);
-                refused = 0;
-            } else if (refused == REFUSED_AT_ONCE || lot == all - 1) {
+            } else {
+                Calls.ask(due, name, want, x, call, arguments);
+                refused++;
+            }
+            if (refused == REFUSED_AT_ONCE || lot == all - 1) {
+                // A fault takes the tape with it, as told.
                 if (!call.getName().equals("strait")) {
-                    String name = "state " + state + ", as untouched behind " + call.getName() + Arrays.toString(arguments);
-                    due.is(name, Arrays.mismatch(told(x), untouched), -1);
+                    due.is(name + ": the first that is not as it was", Arrays.mismatch(told(x), untouched), -1);
                 }
                 x = made(state);
                 refused = 0;
@@ -98,20 +92,6 @@ public final class RefusedTest extends Edges {
         return number;
     }
 
-    private static int asked(Method call, ClashRocks x, Model model, int state, Object[] arguments)
-            throws ReflectiveOperationException {
-        String name = "state " + state + ", " + call.getName() + Arrays.toString(arguments);
-        int want = (Integer) Model.class.getDeclaredMethod(call.getName(), call.getParameterTypes()).invoke(model, arguments);
-        try {
-            int got = (Integer) call.invoke(x, arguments);
-            due.is(name, got, want);
-            return got;
-        } catch (InvocationTargetException thrown) {
-            due.is(name + " threw " + thrown.getCause() + ", so it", MIN, want);
-            return 0;
-        }
-    }
-
     private static ClashRocks made(int state) throws ReflectiveOperationException {
         ClashRocks x = new ClashRocks();
         run(x, STATES[state]);
@@ -125,7 +105,7 @@ public final class RefusedTest extends Edges {
             boolean isRepeated = Character.isDigit(words[0].charAt(0));
             int times = isRepeated ? Integer.parseInt(words[0]) : 1;
             int name = isRepeated ? 1 : 0;
-            Method method = named(x, words[name]);
+            Method method = Calls.named(x.getClass(), words[name]);
             Object[] arguments = new Object[words.length - name - 1];
             for (int k = 0; k < arguments.length; k++) {
                 arguments[k] = boxed(method.getParameterTypes()[k], Integer.parseInt(words[name + 1 + k]));
@@ -134,15 +114,6 @@ public final class RefusedTest extends Edges {
                 method.invoke(x, arguments);
             }
         }
-    }
-
-    private static Method named(Object x, String name) {
-        for (Method method : x.getClass().getDeclaredMethods()) {
-            if (method.getName().equals(name)) {
-                return method;
-            }
-        }
-        throw new IllegalArgumentException(name);
     }
 
     /** All that an object tells of itself, its image and its sheets; it is used up then. */
@@ -174,15 +145,16 @@ public final class RefusedTest extends Edges {
     }
 
     private static void tellWaters(ClashRocks x, List<Integer> told) {
+        int first = told.size();
         for (int what = 0; what < 8; what++) {
             told.add(x.count(what));
         }
-        for (int pair = 0; pair < x.count(0); pair++) {
+        for (int pair = 0; pair < told.get(first); pair++) {
             for (int what = 0; what < 5; what++) {
                 told.add(x.of(pair, what));
             }
         }
-        for (int ship = 0; ship < x.count(1); ship++) {
+        for (int ship = 0; ship < told.get(first + 1); ship++) {
             for (int what = 0; what < 3; what++) {
                 told.add(x.told(ship, what));
             }
